@@ -40,10 +40,7 @@ public final class MindNet {
     // ---- 1 people, rounds
 
     public int one(int thought) {
-        if (!isThought(thought)) {
-            return OUTSIDE;
-        }
-        return people.isFull() ? FULL : people.join(thought);
+        return isThought(thought) ? people.join(thought) : OUTSIDE;
     }
 
     public int think(int one, int thought) {
@@ -352,16 +349,12 @@ public final class MindNet {
             return count;
         }
 
-        boolean isFull() {
-            return count >= MOST_PEOPLE;
-        }
-
         boolean has(int one) {
             return one >= 0 && one < count && one < MOST_PEOPLE;
         }
 
         int join(int thought) {
-            if (isFull()) {
+            if (count >= MOST_PEOPLE) {
                 return FULL;
             }
             int one = count;
@@ -409,13 +402,12 @@ public final class MindNet {
             ear = width;
         }
 
-        boolean isWithinEar(int one, int other) {
-            return has(one) && has(other) && Math.abs(thoughts[one] - thoughts[other]) <= ear;
-        }
-
         /** Each hears itself, whatever its weight for itself is. */
         boolean hears(int one, int other) {
-            return one == other || weightOf(one, other) > 0 && isWithinEar(one, other);
+            if (!has(one) || !has(other)) {
+                return false;
+            }
+            return one == other || weights[one][other] > 0 && Math.abs(thoughts[one] - thoughts[other]) <= ear;
         }
 
         int countHeard(int one) {
@@ -429,22 +421,22 @@ public final class MindNet {
         }
 
         int thoughtAfterRound(int one) {
-            if (isStubborn(one)) {
+            if (!has(one) || stubborn[one]) {
                 return thoughtOf(one);
             }
             int sum = 0;
-            int weightsTogether = 0;
-            for (int other = 0; other < count; other++) {
+            int together = 0;
+            for (int other = 0; other < count && other < MOST_PEOPLE; other++) {
                 if (hears(one, other)) {
-                    sum += weightOf(one, other) * thoughtOf(other);
-                    weightsTogether += weightOf(one, other);
+                    sum += weights[one][other] * thoughts[other];
+                    together += weights[one][other];
                 }
             }
-            return weightsTogether == 0 ? thoughtOf(one) : sum / weightsTogether;
+            return together == 0 ? thoughts[one] : sum / together;
         }
 
         boolean hangTogether(int one, int other) {
-            return (weightOf(one, other) > 0 || weightOf(other, one) > 0) && isWithinEar(one, other);
+            return hears(one, other) || hears(other, one);
         }
 
         int spread() {
@@ -588,7 +580,7 @@ public final class MindNet {
             begin(people.size());
             for (int one = 0; one < count; one++) {
                 for (int other = 0; other < count; other++) {
-                    if (one == other || people.hangTogether(one, other)) {
+                    if (people.hangTogether(one, other)) {
                         tie(one, other);
                     }
                 }
@@ -821,7 +813,7 @@ public final class MindNet {
             numberMoving(people);
             fillSquare(people);
             lower = square.determinant(-1);
-            for (int one = 0; one < people.size() && one < uppers.length; one++) {
+            for (int one = 0; one < people.size() && one < MOST_PEOPLE; one++) {
                 boolean stays = people.isStubborn(one);
                 uppers[one] = stays ? people.thoughtOf(one) * lower : square.determinant(placeOf[one]);
             }
@@ -910,7 +902,7 @@ public final class MindNet {
             if (spreadOf(first) <= aim) {
                 return 0;
             }
-            for (int at = 0; at < count && at < kinds.length; at++) {
+            for (int at = 0; at < count && at < MOST_KINDS; at++) {
                 int answer = goOnFrom(kinds[at], talksTo[at] + 1);
                 if (answer != NONE) {
                     return answer;

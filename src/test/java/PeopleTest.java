@@ -117,6 +117,9 @@ public final class PeopleTest {
         net.ear(49);
         DUE.is("promise 9: hears none", net.about(0, 2), 0);
         DUE.is("promise 9: weights go one way", net.about(1, 2), 0);
+        net.weight(2, 0, 1);
+        net.ear(51);
+        DUE.is("promise 9: hears the first", net.about(2, 2), 1);
         net.weight(0, 0, 0);
         net.ear(1000);
         DUE.is("promise 9: itself never counts", net.about(0, 2), 2);
@@ -163,6 +166,7 @@ public final class PeopleTest {
         DUE.is("promise 10: spread", net.told(3), 350);
         DUE.is("promise 10: discord", net.told(4), 350 + 300 + 50);
         DUE.is("promise 10: sum", net.told(5), 950);
+        DUE.is("promise 10: spread with the first between", People.thinking(500, 1000, 2, 3).told(3), 998);
         DUE.is("promise 10: spread of one", People.thinking(9).told(3), 0);
     }
 

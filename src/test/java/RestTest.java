@@ -12,6 +12,7 @@ public final class RestTest {
         restRefused();
         pull();
         pullOfSeveral();
+        pullByParts();
         pullRefused();
         DUE.close();
     }
@@ -83,6 +84,9 @@ public final class RestTest {
         apart.weight(2, 3, 1);
         dueRest("promise 17: each is led by another stubborn one", apart, 1, 0, 1);
         dueRest("promise 17: each is led by another stubborn one", apart, 2, 30, 1);
+        apart.stubborn(0, false);
+        DUE.is("promise 17: nobody leads to 0", apart.rest(2, 0), LOST_NO);
+        apart.stubborn(0, true);
         apart.weight(1, 0, 0);
         apart.weight(0, 1, 1);
         DUE.is("promise 17: 1 leads but is not led", apart.rest(2, 0), LOST_NO);
@@ -124,6 +128,30 @@ public final class RestTest {
         net.weight(1, 3, 1);
         DUE.is("promise 18: one that is listened to", net.pull(600), 3);
         DUE.is("promise 18: below them the first that is not", net.pull(400), 1);
+    }
+
+    /** Sums with the same whole part: 1 held at 1 has 1 + 2 parts of itself beside it, 2 has a little more. */
+    private static void pullByParts() {
+        MindNet net = People.thinking(0, 5, 5, 5);
+        net.stubborn(0, true);
+        net.weight(1, 0, 1);
+        net.weight(2, 0, 1);
+        net.weight(3, 0, 3);
+        net.weight(3, 1, 2);
+        net.weight(3, 2, 3);
+        // At 1: 1 has 1 + 2 / 8, 2 has 1 + 3 / 8, 3 has 1.
+        DUE.is("promise 18: by parts of one", net.pull(1), 2);
+        net.weight(3, 1, 4);
+        DUE.is("promise 18: by parts of one, turned", net.pull(1), 1);
+        net.weight(3, 1, 3);
+        DUE.is("promise 18: parts alike", net.pull(1), 1);
+        net.weight(2, 1, 1);
+        net.weight(1, 2, 1);
+        // At 1: 1 has 1 + 1 / 2 + (3 + 3 / 2) / 9, 2 the same.
+        DUE.is("promise 18: parts of parts alike", net.pull(1), 1);
+        net.weight(3, 2, 4);
+        // At 1: 1 has 1 + 1 / 2 + 5 / 10, 2 has 1 + 1 / 2 + 11 / 20.
+        DUE.is("promise 18: above a whole number", net.pull(1), 2);
     }
 
     private static void pullRefused() {

@@ -107,6 +107,11 @@ public final class RoundsTest {
         DUE.is("promise 13: with none at all", new MindNet().width(3, 4, 1), 3);
         DUE.is("promise 13: what is spent does not count", swapping().width(0, 30, 2), 0);
         DUE.is("promise 13: nor where all is spent", swapping().width(1, 30, 2), MindNet.NONE);
+        MindNet moving = People.inLine(100, 120, 130);
+        DUE.is("promise 13: the first moves too", moving.width(0, 30, 1), 20);
+        DUE.is("promise 13: each from thoughts as they are", moving.width(0, 30, 2), 10);
+        DUE.is("promise 13: and again", moving.width(0, 30, 1), 20);
+        People.dueThoughts(DUE, "promise 13: all thoughts stay", moving, 100, 120, 130);
         MindNet kept = People.thinking(1, 2);
         kept.keep();
         kept.think(0, 50);

@@ -108,6 +108,13 @@ public final class SharesTest {
         oneWay.weight(0, 1, 1);
         DUE.is("promise 15: one does not lead to the other", oneWay.share(0, 0), LOST_NO);
         DUE.is("promise 16: one does not lead to the other", oneWay.end(0), LOST_NO);
+        MindNet toFirst = People.inLine(1, 2, 3);
+        toFirst.weight(0, 1, 0);
+        DUE.is("promise 15: nobody leads to the first", toFirst.share(1, 0), LOST_NO);
+        toFirst.weight(0, 2, 1);
+        DUE.holds("promise 15: the last leads to the first", toFirst.share(1, 0) > 0);
+        toFirst.weight(2, 1, 0);
+        DUE.is("promise 15: nobody leads to the last", toFirst.share(1, 0), LOST_NO);
     }
 
     private static void refused() {
