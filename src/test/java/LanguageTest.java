@@ -212,7 +212,8 @@ public final class LanguageTest extends TreePathScanner<Void, Void> {
 
     @Override
     public Void visitTypeCast(TypeCastTree tree, Void none) {
-        DUE.holds("rule 6: casts are among numbers: " + tree, Set.of("int", "long").contains(tree.getType().toString()));
+        String type = tree.getType().toString();
+        DUE.holds("rule 6: casts are among numbers: " + tree, Set.of("int", "long").contains(type));
         return super.visitTypeCast(tree, none);
     }
 

@@ -30,6 +30,20 @@ final class People {
         }
     }
 
+    /**
+     * One stubborn at 0 and six alike at a thought, of whom only the first listens to it: of rounds that change
+     * something there are 298 from 252 on, 299 from 253, 300 from 254 and 301 from 255.
+     */
+    static MindNet slowing(int thought) {
+        MindNet net = thinking(0, thought, thought, thought, thought, thought, thought);
+        weighAll(net, 9);
+        for (int one = 1; one < 7; one++) {
+            net.weight(one, 0, one == 1 ? 1 : 0);
+        }
+        net.stubborn(0, true);
+        return net;
+    }
+
     static void dueThoughts(Due due, String when, MindNet net, int... thoughts) {
         due.is(when + ": people", net.told(0), thoughts.length);
         for (int one = 0; one < thoughts.length; one++) {

@@ -4,8 +4,11 @@ import java.util.Random;
 public final class RandomRunsTest {
     private static final Due DUE = new Due("RandomRunsTest");
     private static final int RUNS = 3000;
-    private static final int CALLS = 160;
-    private static final int[] ODD = {-1, Integer.MIN_VALUE, Integer.MAX_VALUE, 12, 13, 1000, 1001, 300, 301, 5, 10, -2};
+    private static final int CALLS = 320;
+    /** Of so many runs one goes on to the last call that an object is used for. */
+    private static final int LONG_RUNS = 60;
+    private static final int MOST_CALLS = 512;
+    private static final int[] ODD = {-1, -2, Integer.MIN_VALUE, Integer.MAX_VALUE, 5, 10, 12, 13, 300, 301, 1000, 1001};
 
     private final Random random;
     private final MindNet net = new MindNet();
@@ -13,11 +16,14 @@ public final class RandomRunsTest {
     private final StringBuilder told = new StringBuilder();
     private final int most;
     private final int greatest;
+    private final int calls;
+    private int called = 0;
 
     private RandomRunsTest(long seed) {
         random = new Random(seed);
         most = 1 + random.nextInt(12);
         greatest = random.nextInt(4) == 0 ? 9 : 1 + random.nextInt(9);
+        calls = seed % LONG_RUNS == 0 ? MOST_CALLS : CALLS;
     }
 
     public static void main(String[] args) {
@@ -34,7 +40,7 @@ public final class RandomRunsTest {
         for (int weight = 0; weight < random.nextInt(most * most + 1); weight++) {
             call(3);
         }
-        for (int number = 0; number < CALLS && DUE.countWrong() == 0; number++) {
+        while (called < calls && DUE.countWrong() == 0) {
             call(kind());
         }
     }
@@ -63,6 +69,7 @@ public final class RandomRunsTest {
     }
 
     private void call(int kind) {
+        called++;
         if (kind < 7) {
             tellPeople(kind);
         } else if (kind < 13) {
@@ -100,7 +107,7 @@ public final class RandomRunsTest {
         switch (kind) {
             case 7 -> alike("about(" + a + ", " + what + ")", net.about(a, what), model.about(a, what));
             case 8 -> alike("told(" + what + ")", net.told(what), model.told(what));
-            case 9 -> alike(random.nextBoolean() ? "keep()" : "", net.keep(), model.keep());
+            case 9 -> alike("keep()", net.keep(), model.keep());
             case 10 -> alike("width(" + from + ", " + to + ", " + groups + ")",
                 net.width(from, to, groups), model.width(from, to, groups));
             case 11 -> alike("back()", net.back(), model.back());
