@@ -668,6 +668,8 @@ public final class PromiseBoundsTest {
         DUE.is("promise 19: stubborn ones", net.talk(0, 1), 5);
         People.dueThoughts(DUE, "promise 19: stubborn ones", net, 5, 6);
         DUE.is("promise 19: they stay so", net.told(6), 2);
+        net.think(0, 0);
+        DUE.is("promise 20: stubborn ones talk as others", net.fewest(2, 0), 1);
     }
 
     /** The size of the difference that was. */
@@ -755,6 +757,10 @@ public final class PromiseBoundsTest {
         net.think(0, 9);
         net.fewest(2, 0);
         DUE.is("promise 21: where it can not be", net.found(), 1);
+        MindNet two = People.thinking(0, 10);
+        two.fewest(2, 9);
+        two.fewest(3, 9);
+        DUE.is("promise 21: refused as unknown after it", two.found(), 2);
     }
 
     /** What earlier searches came to does not count: each is as the first one of an object. */

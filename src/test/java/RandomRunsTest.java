@@ -8,7 +8,8 @@ public final class RandomRunsTest {
     /** Of so many runs one goes on to the last call that an object is used for. */
     private static final int LONG_RUNS = 60;
     private static final int MOST_CALLS = 512;
-    private static final int[] ODD = {-1, -2, Integer.MIN_VALUE, Integer.MAX_VALUE, 5, 10, 12, 13, 300, 301, 1000, 1001};
+    private static final int[] ODD = {Integer.MIN_VALUE, -2, -1, 5, 10, 12, 13, 300, 301, 1000, 1001,
+        Integer.MAX_VALUE};
 
     private final Random random;
     private final MindNet net = new MindNet();

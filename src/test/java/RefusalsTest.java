@@ -208,8 +208,16 @@ public final class RefusalsTest {
         dueAndAlike("two", lonely, new Refused("pull(9)", net -> net.pull(9), MindNet.NO));
         dueAndAlike("two", lonely, new Refused("fewest(3, 0)", net -> net.fewest(3, 0), MindNet.UNKNOWN));
         dueAndAlike("two", lonely, new Refused("back()", net -> net.back(), MindNet.STATE));
-        Supplier<MindNet> searched = RefusalsTest::spentSearch;
-        dueAndAlike("four", searched, new Refused("fewest(4, 0)", net -> net.fewest(4, 0), MindNet.SPENT));
+        Supplier<MindNet> searched = RefusalsTest::searchedTwo;
+        dueAndAlike("two", searched, new Refused("fewest(4, 9)", net -> net.fewest(4, 9), MindNet.UNKNOWN));
+        Supplier<MindNet> spent = RefusalsTest::spentSearch;
+        dueAndAlike("four", spent, new Refused("fewest(4, 0)", net -> net.fewest(4, 0), MindNet.SPENT));
+    }
+
+    private static MindNet searchedTwo() {
+        MindNet net = People.thinking(5, 600);
+        net.fewest(2, 0);
+        return net;
     }
 
     private static MindNet spentSearch() {

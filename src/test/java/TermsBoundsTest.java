@@ -335,7 +335,13 @@ public final class TermsBoundsTest {
         DUE.is("part 2: end without ears", net.end(0), 500);
         net.stubborn(0, true);
         DUE.is("part 3: rest without ears", net.rest(1, 0), 0);
-        net.one(500);
+        DUE.is("part 3: rest without ears, lower", net.rest(1, 1), 1);
+        net.one(501);
+        net.weight(1, 2, 2);
+        net.stubborn(2, true);
+        DUE.is("part 3: rest of one between, without ears", net.rest(1, 0), 334);
+        net.stubborn(2, false);
+        net.weight(1, 2, 0);
         net.weight(2, 1, 1);
         DUE.is("part 3: pull without ears", net.pull(1000), 1);
     }
