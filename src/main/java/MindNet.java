@@ -681,7 +681,7 @@ public final class MindNet {
             for (int columns = 1; columns <= all && columns < minors.length; columns++) {
                 minors[columns] = minorOf(columns, replaced);
             }
-            return all < minors.length ? minors[all] : 0;
+            return all >= 0 && all < minors.length ? minors[all] : 0;
         }
 
         /** The same with 1 in a row and 0 in the others beside: what is left without that row and column. */
@@ -973,8 +973,15 @@ public final class MindNet {
         }
 
         private boolean isKnown(long kind) {
-            int place = slots[slotFor(kind)] - 1;
+            return isAt(placeIn(slotFor(kind)), kind);
+        }
+
+        private boolean isAt(int place, long kind) {
             return place >= 0 && place < kinds.length && kinds[place] == kind;
+        }
+
+        private int placeIn(int slot) {
+            return slot >= 0 && slot < slots.length ? slots[slot] - 1 : -1;
         }
 
         private void comeTo(long kind, int talks) {
@@ -982,7 +989,13 @@ public final class MindNet {
                 kinds[count] = kind;
                 talksTo[count] = talks;
                 count++;
-                slots[slotFor(kind)] = count;
+                mark(slotFor(kind), count);
+            }
+        }
+
+        private void mark(int slot, int number) {
+            if (slot >= 0 && slot < slots.length) {
+                slots[slot] = number;
             }
         }
 
@@ -990,8 +1003,8 @@ public final class MindNet {
         private int slotFor(long kind) {
             int slot = (int) (kind * SCATTER >>> 64 - SLOT_BITS);
             for (int step = 0; step < SLOTS; step++) {
-                int place = slots[slot] - 1;
-                if (place < 0 || place >= kinds.length || kinds[place] == kind) {
+                int place = placeIn(slot);
+                if (place < 0 || isAt(place, kind)) {
                     return slot;
                 }
                 slot = (slot + 1) % SLOTS;

@@ -1,8 +1,13 @@
+import com.sun.source.tree.ArrayAccessTree;
 import com.sun.source.tree.AssertTree;
 import com.sun.source.tree.BinaryTree;
 import com.sun.source.tree.ClassTree;
 import com.sun.source.tree.CompilationUnitTree;
+import com.sun.source.tree.CompoundAssignmentTree;
+import com.sun.source.tree.ExpressionTree;
+import com.sun.source.tree.IdentifierTree;
 import com.sun.source.tree.LambdaExpressionTree;
+import com.sun.source.tree.LiteralTree;
 import com.sun.source.tree.MemberReferenceTree;
 import com.sun.source.tree.MethodInvocationTree;
 import com.sun.source.tree.MethodTree;
@@ -17,6 +22,7 @@ import com.sun.source.tree.VariableTree;
 import com.sun.source.tree.WhileLoopTree;
 import com.sun.source.util.JavacTask;
 import com.sun.source.util.TreePathScanner;
+import com.sun.source.util.TreeScanner;
 import com.sun.source.util.Trees;
 import java.nio.file.Files;
 import java.nio.file.Path;
@@ -46,6 +52,7 @@ public final class LanguageTest extends TreePathScanner<Void, Void> {
     private final Map<Element, Set<Element>> calls = new HashMap<>();
     private final Set<String> library = new TreeSet<>();
     private Element method = null;
+    private MethodTree methodTree = null;
     private int classes = 0;
 
     private LanguageTest(Trees trees, CompilationUnitTree unit) {
@@ -124,6 +131,7 @@ public final class LanguageTest extends TreePathScanner<Void, Void> {
     @Override
     public Void visitMethod(MethodTree tree, Void none) {
         method = trees.getElement(getCurrentPath());
+        methodTree = tree;
         calls.putIfAbsent(method, new LinkedHashSet<>());
         long first = unit.getLineMap().getLineNumber(trees.getSourcePositions().getStartPosition(unit, tree));
         long end = trees.getSourcePositions().getEndPosition(unit, tree);
@@ -132,6 +140,7 @@ public final class LanguageTest extends TreePathScanner<Void, Void> {
         DUE.holds("rule 11: parameters of " + tree.getName(), tree.getParameters().size() <= MOST_PARAMETERS);
         super.visitMethod(tree, none);
         method = null;
+        methodTree = null;
         return null;
     }
 
@@ -217,10 +226,95 @@ public final class LanguageTest extends TreePathScanner<Void, Void> {
         return super.visitTypeCast(tree, none);
     }
 
+    /** A number written there, or a name that the same method looks at from below and from above. */
+    @Override
+    public Void visitArrayAccess(ArrayAccessTree tree, Void none) {
+        ExpressionTree index = tree.getIndex();
+        boolean isNumber = index instanceof LiteralTree;
+        boolean isLookedAt = index instanceof IdentifierTree && methodTree != null
+            && new Looks(index.toString()).areBoth(methodTree);
+        DUE.holds("rule 7: an index is looked at before it is used: " + tree, isNumber || isLookedAt);
+        return super.visitArrayAccess(tree, none);
+    }
+
     @Override
     public Void visitBinary(BinaryTree tree, Void none) {
         boolean isText = trees.getTypeMirror(getCurrentPath()).toString().equals("java.lang.String");
         DUE.holds("rule 10: no texts joined: " + tree, !isText);
+        if (tree.getKind() == Tree.Kind.DIVIDE || tree.getKind() == Tree.Kind.REMAINDER) {
+            dueDivisor(tree.getRightOperand());
+        }
         return super.visitBinary(tree, none);
+    }
+
+    /** A number or a constant, neither of them 0, or a name that the same method compares with 0. */
+    private void dueDivisor(ExpressionTree divisor) {
+        String name = divisor.toString();
+        boolean isConstant = divisor instanceof LiteralTree && !name.equals("0") || name.equals("SLOTS");
+        boolean isLookedAt = methodTree != null && new Looks(name).isComparedWith0(methodTree);
+        DUE.holds("rule 7: a divisor is looked at before it divides: " + divisor, isConstant || isLookedAt);
+    }
+
+    @Override
+    public Void visitCompoundAssignment(CompoundAssignmentTree tree, Void none) {
+        Tree.Kind kind = tree.getKind();
+        boolean divides = kind == Tree.Kind.DIVIDE_ASSIGNMENT || kind == Tree.Kind.REMAINDER_ASSIGNMENT;
+        DUE.holds("rule 7: a divisor that is not looked at: " + tree, !divides);
+        return super.visitCompoundAssignment(tree, none);
+    }
+
+    /** What a method does to look at a number by its name; not whether it does so before it uses it. */
+    private static final class Looks extends TreeScanner<Void, Void> {
+        private static final Set<String> GUARDS = Set.of("has", "isThere", "isPlace");
+        /** A field that begins with 0 and is only counted up. */
+        private static final String COUNTER = "count";
+
+        private final String name;
+        private boolean fromBelow;
+        private boolean fromAbove = false;
+        private boolean with0 = false;
+
+        Looks(String name) {
+            this.name = name;
+            fromBelow = name.equals(COUNTER);
+        }
+
+        boolean areBoth(MethodTree method) {
+            scan(method, null);
+            return fromBelow && fromAbove;
+        }
+
+        boolean isComparedWith0(MethodTree method) {
+            scan(method, null);
+            return with0;
+        }
+
+        @Override
+        public Void visitBinary(BinaryTree tree, Void none) {
+            boolean isIt = tree.getLeftOperand().toString().equals(name);
+            boolean by0 = tree.getRightOperand().toString().equals("0");
+            Tree.Kind kind = tree.getKind();
+            fromBelow |= isIt && by0 && (kind == Tree.Kind.GREATER_THAN_EQUAL || kind == Tree.Kind.LESS_THAN);
+            fromAbove |= isIt && !by0 && kind == Tree.Kind.LESS_THAN;
+            with0 |= isIt && by0 && (kind == Tree.Kind.EQUAL_TO || kind == Tree.Kind.NOT_EQUAL_TO);
+            return super.visitBinary(tree, none);
+        }
+
+        /** One that is counted from 0 or 1 on. */
+        @Override
+        public Void visitVariable(VariableTree tree, Void none) {
+            boolean isIt = tree.getName().contentEquals(name) && tree.getInitializer() != null;
+            fromBelow |= isIt && Set.of("0", "1").contains(tree.getInitializer().toString());
+            return super.visitVariable(tree, none);
+        }
+
+        @Override
+        public Void visitMethodInvocation(MethodInvocationTree tree, Void none) {
+            boolean isGuard = GUARDS.contains(tree.getMethodSelect().toString());
+            boolean isOfIt = tree.getArguments().size() == 1 && tree.getArguments().get(0).toString().equals(name);
+            fromBelow |= isGuard && isOfIt;
+            fromAbove |= isGuard && isOfIt;
+            return super.visitMethodInvocation(tree, none);
+        }
     }
 }
